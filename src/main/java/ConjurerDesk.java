@@ -55,8 +55,8 @@ public final class ConjurerDesk {
     private static final int TO = 14;
     private static final int ALL = 15;
     private static final int FREE = 16;
+    // b, c and d follow.
     private static final int PILE_A = 17;
-    private static final int PILE_D = 20;
     private static final int OR = 21;
     private static final int AND = 22;
     private static final int NOT = 23;
@@ -766,6 +766,7 @@ public final class ConjurerDesk {
             Step step = into.steps[into.size];
             into.size++;
             step.word = kind;
+            step.amount = 0;
             goOn();
             mayDo += often;
             if (step.word == TIMES) {
@@ -804,7 +805,6 @@ public final class ConjurerDesk {
         }
 
         private void readPlainStep(Step step) {
-            step.amount = 0;
             step.pile = readPile(NONE);
             switch (step.word) {
                 case CUT:

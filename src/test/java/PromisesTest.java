@@ -22,6 +22,7 @@ public final class PromisesTest {
         fault();
         numbersOfClaims();
         testsOfClaims();
+        testsOfFewCards();
         connectives();
         steps();
         stepsOfTwoPiles();
@@ -329,6 +330,27 @@ public final class PromisesTest {
         dueFault("if 1 == 2 { }", 2, 6);
         dueFault("if 1 =< 2 { }", 2, 6);
         dueFault("cut -1;", 1, 4);
+        dueFault("if 1 !", 1, 5);
+        dueFault("if 1 !=", 2, 7);
+        dueFault("if 1 <=", 2, 7);
+        dueFault("if 1 >=", 2, 7);
+        bytesBehindTheEnd();
+    }
+
+    /** What was cut off by end() is no longer there, even if it would go on with the last TOKEN. */
+    private static void bytesBehindTheEnd() {
+        ConjurerDesk desk = new ConjurerDesk();
+        tape(desk, "1 = 12");
+        desk.end(5);
+        due("1 = 1 of 1 = 12", desk.claim(), 0);
+        due("it holds", desk.holds(), true);
+        tape(desk, "1 != 2");
+        desk.end(3);
+        due("1 ! of 1 != 2", desk.claim(), -3);
+        due("its fault", desk.fault(), 1);
+        tape(desk, "cut a 1;cut a 1;");
+        desk.end(8);
+        due("one STEP of two", desk.trick(), 1);
     }
 
     private static void faultsOfSteps() {
@@ -338,6 +360,8 @@ public final class PromisesTest {
         dueFault("cut a 1", 2, 7);
         dueFault("cut e 1;", 2, 4);
         dueFault("cut 1 a;", 2, 4);
+        dueFault("cut or 1;", 2, 4);
+        dueFault("cut free 1;", 2, 4);
         dueFault("cut a ;", 2, 6);
         dueFault("cut a b;", 2, 6);
         dueFault("cut a 10;", 3, 6);
@@ -447,6 +471,9 @@ public final class PromisesTest {
         dueClaimFault("alike face a", 2, 6);
         dueClaimFault("alike card a", 2, 6);
         dueClaimFault("alike suit", 2, 10);
+        dueClaimFault("alike a", 2, 6);
+        dueClaimFault("each 2 a", 2, 7);
+        dueClaimFault("each 2 size a", 2, 7);
         dueClaimFault("each suit a", 2, 5);
         dueClaimFault("each 1 suit a", 3, 5);
         dueClaimFault("each 10 suit a", 3, 5);
@@ -562,6 +589,31 @@ public final class PromisesTest {
         due("one card rises", desk.holds(), true);
     }
 
+    private static void testsOfFewCards() {
+        ConjurerDesk desk = new ConjurerDesk();
+        desk.cards(4);
+        for (int c = 1; c <= 4; c++) {
+            desk.card(c, 7, 2, 0);
+        }
+        claim(desk, "alike value a and alike suit a and alike colour a");
+        due("all are alike", desk.holds(), true);
+        desk.card(4, 8, 2, 0);
+        due("but for the last one", desk.holds(), false);
+        desk.card(4, 7, 2, 0);
+        desk.card(2, 7, 3, 0);
+        due("but for the second one", desk.holds(), false);
+        desk.card(2, 7, 2, 0);
+        desk.card(1, 7, 2, 1);
+        due("but for the first one", desk.holds(), false);
+        desk.cards(4);
+        claim(desk, "each 4 suit a and each 2 suit a");
+        due("four suits", desk.holds(), true);
+        desk.card(4, 1, 2, 0);
+        due("the last of the last group", desk.holds(), false);
+        claim(desk, "each 3 suit a");
+        due("it is in no group of three", desk.holds(), true);
+    }
+
     private static void connectives() {
         dueTruth("1 = 1 or 1 = 1 and 1 = 2", true);
         dueTruth("(1 = 1 or 1 = 1) and 1 = 2", false);
@@ -672,6 +724,9 @@ public final class PromisesTest {
         due("not else", after(3, "if size a = 3 { cut a 1; } else { turn a 1; } cut a 1;"), "312|||");
         due("if looks at what lies now",
                 after(4, "times 3 { if card a 1 = 2 { deal a 2 to b; } else { cut a 1; } }"), "14|32||");
+        due("times four deep", after(9, "times 2 { times 2 { times 2 { times 2 { cut a 1; } } } }"), "891234567|||");
+        due("ifs four deep", after(3, "if 1 = 2 { } else { if 1 = 1 { if 1 = 2 { } else { if 1 = 1 { cut a 1; } } } }"),
+                "231|||");
         due("two conditions", after(3, "if 1 = 1 { flip a 1; } if 1 = 2 { flip a 2; } else { flip a 3; }"), "1^23^|||");
         due("else of the inner one", after(2, "if 1 = 1 { if 1 = 2 { } else { flip a 1; } } else { flip a 2; }"), "1^2|||");
     }
@@ -700,6 +755,14 @@ public final class PromisesTest {
         trick(desk, "flip a free; if face a 1 = 1 { flip a 1; } else { if face a 2 = 1 { flip a 2; } }");
         desk.run();
         due("ways that come together", desk.ends(0), 7);
+        trick(desk, "times 2 { times 2 { times 2 { times 2 { cut a 1; } } } } cut a 1;");
+        claim(desk, "card a 1 = 2");
+        due("times four deep", desk.run(), 0);
+        trick(desk, "cut a free; if card a 1 < 5 { if card a 1 < 3 { if card a 1 < 2 { if 1 = 1 { cut a 7; } } else"
+                + "{ if 1 = 2 { } else { cut a 6; } } } else { if card a 1 = 3 { cut a 5; } else { cut a 4; } } }");
+        claim(desk, "card a 1 > 4");
+        due("ifs four deep", desk.run(), 0);
+        due("all come to one of these", desk.ends(0), 4);
         tape(desk, 129, 2, 3, 4, 5, 6, 7, 8);
         desk.start();
         trick(desk, "");
@@ -748,9 +811,48 @@ public final class PromisesTest {
         due("2997 ends", desk.ends(0), 2997);
         trick(desk, "cut a free; mark a free; flip a free; if up a = 1 { flip a free; } else { }");
         due("still 2997", desk.run(), 0);
-        desk.cards(4);
-        trick(desk, "mark a free; flip a free; flip a free; flip a free; turn a free; move a free to b;");
-        due("few cards", desk.run(), 0);
+        largeEdge();
+        largeWithIfAndTimes();
+    }
+
+    private static void largeEdge() {
+        ConjurerDesk desk = new ConjurerDesk();
+        desk.cards(6);
+        // 120 orders of five cards, one of five MARKED, one of five with its face up: just 3000 ways
+        String most = "take a 6 to c; times 4 { take a free to b; } move a 1 to b; mark b free; flip b free;";
+        trick(desk, most);
+        claim(desk, "size b = 5");
+        due("3000 ways are not LARGE", desk.run(), 0);
+        due("3000 ends", desk.ends(0), 3000);
+        String oneWay = "if card b 1 = 1 and card b 2 = 2 and card b 3 = 3 and card b 4 = 4 and where b = 1"
+                + " and face b 1 = 1 {";
+        trick(desk, most + oneWay + " move c all to d; }");
+        due("one of them otherwise", desk.run(), 0);
+        due("still 3000 ends", desk.ends(0), 3000);
+        trick(desk, most + oneWay + " move c free to d; }");
+        due("3001 ways are LARGE", desk.run(), 2);
+        trick(desk, most + oneWay + " move c free to d; } move d all to c; down b to c; times 9 { swap a b; }");
+        due("LARGE though they come together again", desk.run(), 2);
+    }
+
+    private static void largeWithIfAndTimes() {
+        ConjurerDesk desk = new ConjurerDesk();
+        desk.cards(9);
+        trick(desk, "times 3 { take a free to b; } if card b 1 = 1 { cut a 1; } else { mark a free; }");
+        due("56 and 2688 ways", desk.run(), 0);
+        due("together", desk.ends(0), 56 + 2688);
+        trick(desk, "times 3 { take a free to b; } if card b 1 = 1 { mark a free; } else { mark a free; }");
+        due("336 and 2688 ways are LARGE together", desk.run(), 2);
+        trick(desk, "times 3 { take a free to b; } if card b 1 = 1 { mark a free; mark a 1; } else { mark a free; }");
+        due("336 that come down to 56, and 2688", desk.run(), 0);
+        desk.cards(8);
+        trick(desk, "times 4 { take a free to b; } times 9 { flip b 1; cut a 1; }");
+        due("each time by itself", desk.run(), 0);
+        due("1680 ends of many", desk.ends(0), 1680);
+        trick(desk, "times 4 { take a free to b; } if card b 1 < 5 { flip b 1; } else { if card b 2 < 5 { flip b 2; }"
+                + " else { times 2 { if 1 = 1 { flip a 1; } } } } if up b = 1 { turn b all; }");
+        due("ifs within one another", desk.run(), 0);
+        due("none is lost", desk.ends(0), 1680);
     }
 
     private static void endsAndChoices() {
