@@ -7,7 +7,7 @@ import java.util.Random;
  * Long rows of calls with any arguments: nothing but the promised exceptions may come, what is told must
  * agree with itself, and the same calls on another object must give the same answers.
  */
-public final class AnyCallTest {
+public final class AnyCallTest extends DeskTest {
     private static final String[] PIECES = {"cut", "deal", "move", "take", "turn", "flip", "riffle", "faro", "down",
         "swap", "mark", "times", "if", "else", "to", "all", "free", "a", "b", "c", "d", "or", "and", "not", "alike",
         "each", "rising", "size", "up", "where", "card", "value", "suit", "colour", "face", "{", "}", "(", ")", ";",
@@ -19,42 +19,45 @@ public final class AnyCallTest {
     private static final String[] CLAIMS = {"rising a", "each 2 colour a", "where a > 2 or up a = 0",
         "not (size a < 3 and alike suit b)", "card a 1 = 1 or value b 2 >= 3", "1 = 1"};
 
-    private static int wrong = 0;
+    // The dearest call here puts 900 bytes on the tape and takes it; a check asks of every card.
+    private static final int CALLS_FOR_ONE = 50;
+    private static final int CALLS_FOR_A_CHECK = 60;
+    private static final int CALLS_BETWEEN_CHECKS = 6;
+
     private static int calls = 0;
 
     public static void main(String[] args) {
-        for (int seed = 1; seed <= 250; seed++) {
+        for (int seed = 1; seed <= 2500; seed++) {
             List<Long> once = answers(seed);
-            if (seed % 10 == 0 && !once.equals(answers(seed))) {
-                fail(seed, "the same calls gave other answers");
+            if (seed % 10 == 0) {
+                must(seed, "the same calls give the same answers", once.equals(answers(seed)));
             }
         }
         worstText();
-        System.out.println(calls + " calls, " + wrong + " went wrong");
-        if (wrong != 0) {
-            System.exit(1);
-        }
+        System.out.println(calls + " calls");
+        finish();
     }
 
-    private static void fail(int seed, String what) {
-        wrong++;
-        System.out.println("seed " + seed + ": " + what);
+    private static void must(int seed, String what, boolean so) {
+        due("seed " + seed + ": whether " + what, so, true);
     }
 
     private static List<Long> answers(int seed) {
         Random random = new Random(seed * 31337L);
-        ConjurerDesk desk = new ConjurerDesk();
+        TestDesk desk = new TestDesk();
         List<Long> answers = new ArrayList<>();
-        for (int i = 0; i < 480; i++) {
+        for (int i = 1; desk.callsLeft() >= CALLS_FOR_ONE + CALLS_FOR_A_CHECK; i++) {
             calls++;
             try {
                 answers.add(anyCall(desk, random));
             } catch (RuntimeException e) {
-                fail(seed, "a call threw " + e);
+                wrong("seed " + seed + ": a call threw " + e);
                 e.printStackTrace(System.out);
                 return answers;
             }
-            check(desk, seed);
+            if (i % CALLS_BETWEEN_CHECKS == 0) {
+                check(desk, seed);
+            }
         }
         return answers;
     }
@@ -67,29 +70,16 @@ public final class AnyCallTest {
         };
     }
 
-    private static void tape(ConjurerDesk desk, String text) {
-        desk.end(0);
-        for (int i = 0; i < text.length() && i < 900; i += 20) {
-            int[] numbers = new int[5];
-            for (int k = 0; k < 20; k++) {
-                int given = i + k < text.length() ? text.charAt(i + k) : 0;
-                numbers[k / 4] |= given << (24 - 8 * (k % 4));
-            }
-            desk.feed(numbers[0], numbers[1], numbers[2], numbers[3], numbers[4]);
-        }
-        desk.end(Math.min(900, text.length()));
-    }
-
     private static String anyText(Random random) {
         StringBuilder text = new StringBuilder();
         for (int i = random.nextInt(random.nextInt(5) == 0 ? 200 : 12); i >= 0; i--) {
             text.append(PIECES[random.nextInt(PIECES.length)]).append(random.nextInt(9) == 0 ? "" : " ");
         }
-        return text.toString();
+        return text.substring(0, Math.min(900, text.length()));
     }
 
     /** Choices and starts are small bytes, texts are texts. */
-    private static void anyTape(ConjurerDesk desk, Random random) {
+    private static void anyTape(TestDesk desk, Random random) {
         StringBuilder bytes = new StringBuilder();
         switch (random.nextInt(5)) {
             case 0 -> bytes.append(anyText(random));
@@ -109,10 +99,10 @@ public final class AnyCallTest {
                 }
             }
         }
-        tape(desk, bytes.toString());
+        desk.tape(bytes.toString());
     }
 
-    private static long stackOrThrow(ConjurerDesk desk, int looks) {
+    private static long stackOrThrow(TestDesk desk, int looks) {
         try {
             return desk.stack(looks);
         } catch (IllegalArgumentException e) {
@@ -120,7 +110,7 @@ public final class AnyCallTest {
         }
     }
 
-    private static long atOrThrow(ConjurerDesk desk, int k) {
+    private static long atOrThrow(TestDesk desk, int k) {
         try {
             return desk.at(k);
         } catch (NoSuchElementException e) {
@@ -128,7 +118,7 @@ public final class AnyCallTest {
         }
     }
 
-    private static long anyCall(ConjurerDesk desk, Random random) {
+    private static long anyCall(TestDesk desk, Random random) {
         switch (random.nextInt(24)) {
             case 0:
                 return desk.feed(random.nextInt(), random.nextInt(), random.nextInt(), random.nextInt(), random.nextInt());
@@ -165,13 +155,13 @@ public final class AnyCallTest {
             case 17:
                 return desk.count(anyNumber(random));
             case 18:
-                tape(desk, TRICKS[random.nextInt(TRICKS.length)]);
+                desk.tape(TRICKS[random.nextInt(TRICKS.length)]);
                 return desk.trick();
             case 19:
-                tape(desk, CLAIMS[random.nextInt(CLAIMS.length)]);
+                desk.tape(CLAIMS[random.nextInt(CLAIMS.length)]);
                 return desk.claim();
             case 20:
-                tape(desk, anyText(random));
+                desk.tape(anyText(random));
                 return random.nextBoolean() ? desk.trick() : desk.claim();
             default:
                 anyTape(desk, random);
@@ -180,7 +170,7 @@ public final class AnyCallTest {
     }
 
     /** All cards lie somewhere just once, and numbers stay within what is promised. */
-    private static void check(ConjurerDesk desk, int seed) {
+    private static void check(TestDesk desk, int seed) {
         int n = desk.count(0);
         int seen = 0;
         int lying = 0;
@@ -190,9 +180,7 @@ public final class AnyCallTest {
                 lying++;
             }
         }
-        if (lying != 0 && (lying != n || seen != (1 << (n + 1)) - 2)) {
-            fail(seed, "cards are lost or doubled");
-        }
+        must(seed, "no card is lost or doubled", lying == 0 || lying == n && seen == (1 << (n + 1)) - 2);
         int first = 0;
         for (int k = 1; k <= n; k++) {
             first |= 1 << (desk.at(k) & 127);
@@ -200,9 +188,8 @@ public final class AnyCallTest {
         boolean inBounds = n >= 2 && n <= 9 && desk.count(1) >= 0 && desk.count(1) <= 40 && desk.count(2) >= 0
                 && desk.count(2) <= 900 && desk.count(3) >= 0 && desk.count(3) <= 8 && desk.fault() >= 0
                 && desk.fault() <= 6 && desk.ends(0) <= 3000 && desk.ends(1) <= desk.ends(0) && desk.ends(2) <= 8;
-        if (first != (1 << (n + 1)) - 2 || !inBounds) {
-            fail(seed, "what is told does not agree with itself");
-        }
+        must(seed, "the START has each card", first == (1 << (n + 1)) - 2);
+        must(seed, "numbers are within their bounds", inBounds);
     }
 
     /** Texts that fill the tape with as many TOKENS, or as much of one kind, as it holds. */
@@ -211,16 +198,15 @@ public final class AnyCallTest {
             "1=1 and ", "not 1=1 or ", "(", "if ", "times 2{", "if 1=1{", "x", "9", " ", "\n", "cut a 1;", "\0", "times 2{}"};
         for (String filler : fillers) {
             for (int cut = 0; cut < 3; cut++) {
-                ConjurerDesk desk = new ConjurerDesk();
+                TestDesk desk = new TestDesk();
                 String text = filler.repeat(900 / filler.length() + 1).substring(0, 900 - cut);
-                tape(desk, text);
+                desk.tape(text);
                 int trick = desk.trick();
-                tape(desk, text);
+                desk.tape(text);
                 int claim = desk.claim();
                 calls += 2;
-                if (trick < -901 || trick > 40 || claim < -901 || claim > 0) {
-                    fail(0, "a text of " + filler + " answered " + trick + ", " + claim);
-                }
+                must(0, "a text of <" + filler + "> answers within bounds",
+                        trick >= -901 && trick <= 40 && claim >= -901 && claim <= 0);
                 desk.run();
                 desk.perform();
                 desk.holds();

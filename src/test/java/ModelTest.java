@@ -12,12 +12,11 @@ import java.util.TreeMap;
  * Made-up tricks and claims, compared with a plain model: it keeps lists of cards, tries every row of
  * CHOICES one after another in their order, and does each from the START on.
  */
-public final class ModelTest {
+public final class ModelTest extends DeskTest {
     private static final String PILE_NAMES = "abcd";
     private static final int MOST_ROWS = 60_000;
-
-    private static int checked = 0;
-    private static int wrong = 0;
+    // A text of 900 bytes and what is asked of it take no more calls.
+    private static final int CALLS_FOR_A_TEXT = 50;
 
     public static void main(String[] args) {
         int judged = 0;
@@ -33,21 +32,16 @@ public final class ModelTest {
         for (int seed = 1; seed <= 300; seed++) {
             spoilOne(new Random(seed * 104729L), seed);
         }
-        System.out.println(checked + " answers compared, " + wrong + " are wrong; of " + judged + " runs "
-                + large + " were large, " + broken + " broken");
-        if (wrong != 0 || judged < 800 || large < 5 || broken < 200) {
-            System.exit(1);
+        System.out.println("of " + judged + " runs " + large + " were large, " + broken + " broken");
+        // Rows that are all of one kind would compare little.
+        if (judged < 800 || large < 5 || broken < 200) {
+            wrong("too few runs of a kind");
         }
+        finish();
     }
 
     private static void due(int seed, String what, long got, long want) {
-        checked++;
-        if (got != want) {
-            wrong++;
-            if (wrong < 20) {
-                System.out.println("seed " + seed + ": " + what + " answered " + got + ", due is " + want);
-            }
-        }
+        due("seed " + seed + ": " + what, got, want);
     }
 
     // ---- the model's trick ----
@@ -557,19 +551,6 @@ public final class ModelTest {
 
     // ---- comparing ----
 
-    private static void tape(ConjurerDesk desk, int... bytes) {
-        desk.end(0);
-        for (int i = 0; i < bytes.length; i += 20) {
-            int[] numbers = new int[5];
-            for (int k = 0; k < 20; k++) {
-                int given = i + k < bytes.length ? bytes[i + k] : 0;
-                numbers[k / 4] |= given << (24 - 8 * (k % 4));
-            }
-            desk.feed(numbers[0], numbers[1], numbers[2], numbers[3], numbers[4]);
-        }
-        desk.end(bytes.length);
-    }
-
     /** What the model finds by all rows of CHOICES; answer -1 if there are too many rows to try. */
     private static final class Found {
         int answer;
@@ -624,7 +605,7 @@ public final class ModelTest {
 
     /** Heavy ones have more cards and CHOICES, so that some of them are LARGE. */
     private static int compareOne(Random random, int seed, boolean heavy) {
-        ConjurerDesk desk = new ConjurerDesk();
+        TestDesk desk = new TestDesk();
         int n = heavy ? 6 + random.nextInt(4) : 2 + random.nextInt(8);
         desk.cards(n);
         int[][] cards = new int[10][];
@@ -636,8 +617,7 @@ public final class ModelTest {
             }
         }
         int[] start = randomStart(random, n);
-        tape(desk, start);
-        due(seed, "start()", desk.start() ? 1 : 0, 1);
+        due(seed, "start()", desk.startWith(start) ? 1 : 0, 1);
         Maker maker = new Maker(random);
         maker.choicesLeft = heavy ? 8 : 5;
         maker.oneFreeOf = heavy ? 1 : 3;
@@ -649,10 +629,8 @@ public final class ModelTest {
         if (text.length() > 900 || claimText.length() > 900) {
             return -1;
         }
-        tape(desk, text.chars().toArray());
-        due(seed, "trick() of " + text, desk.trick(), 14 - maker.stepsLeft);
-        tape(desk, claimText.chars().toArray());
-        due(seed, "claim() of " + claimText, desk.claim(), 0);
+        due(seed, "trick() of " + text, desk.trickOf(text), 14 - maker.stepsLeft);
+        due(seed, "claim() of " + claimText, desk.claimOf(claimText), 0);
         due(seed, "holds() of the START, " + claimText, desk.holds() ? 1 : 0,
                 meets(claim, new Layout(start), cards) ? 1 : 0);
         for (int i = 0; i < 6; i++) {
@@ -677,7 +655,7 @@ public final class ModelTest {
         return order.stream().mapToInt(c -> c).toArray();
     }
 
-    private static void comparePerformance(ConjurerDesk desk, Random random, int seed, List<Node> trick, Cond claim,
+    private static void comparePerformance(TestDesk desk, Random random, int seed, List<Node> trick, Cond claim,
             int[][] cards, int[] start) {
         int[] row = new int[random.nextInt(8)];
         for (int i = 0; i < row.length; i++) {
@@ -690,8 +668,7 @@ public final class ModelTest {
         } catch (Stuck e) {
             stuck = true;
         }
-        tape(desk, row);
-        due(seed, "perform()", desk.perform(), stuck ? -1 - performance.done : performance.done);
+        due(seed, "perform()", desk.performWith(row), stuck ? -1 - performance.done : performance.done);
         due(seed, "count(3)", desk.count(3), performance.taken);
         due(seed, "count(2)", desk.count(2), 0);
         for (int p = 0; p < 4; p++) {
@@ -706,7 +683,7 @@ public final class ModelTest {
         due(seed, "holds() as performed", desk.holds() ? 1 : 0, meets(claim, performance.table, cards) ? 1 : 0);
     }
 
-    private static void compareRun(ConjurerDesk desk, int seed, Found found, String text) {
+    private static void compareRun(TestDesk desk, int seed, Found found, String text) {
         due(seed, "run() of " + text, desk.run(), found.answer);
         boolean told = found.answer != 2;
         due(seed, "ends(0) of " + text, desk.ends(0), told ? found.ends : -1);
@@ -718,7 +695,7 @@ public final class ModelTest {
         }
     }
 
-    private static void compareStack(ConjurerDesk desk, int seed, List<Node> trick, Cond claim, int[][] cards, int n) {
+    private static void compareStack(TestDesk desk, int seed, List<Node> trick, Cond claim, int[][] cards, int n) {
         int looks = 12;
         int[] order = new int[n];
         for (int i = 0; i < n; i++) {
@@ -766,6 +743,8 @@ public final class ModelTest {
 
     // ---- spoiling ----
 
+    private static TestDesk faultDesk = new TestDesk();
+
     /** A good text with one TOKEN spoilt has its FAULT there, whatever comes behind. */
     private static void spoilOne(Random random, int seed) {
         Maker maker = new Maker(random);
@@ -780,30 +759,32 @@ public final class ModelTest {
         if (text.length() > 880) {
             return;
         }
-        ConjurerDesk desk = new ConjurerDesk();
         for (int i = 0; i < places.size(); i++) {
             int place = places.get(i);
             String head = text.substring(0, place);
             String tail = text.substring(place + maker.text.get(i).length());
-            dueFault(desk, seed, ofClaim, head + "# " + tail, 1, place);
-            dueFault(desk, seed, ofClaim, head + " zzz " + tail, 2, place + 1);
-            dueFault(desk, seed, ofClaim, head + " cut9 " + tail, 1, place + 1);
-            dueFault(desk, seed, ofClaim, head + " abcdefghi " + tail, 1, place + 1);
+            dueFault(seed, ofClaim, head + "# " + tail, 1, place);
+            dueFault(seed, ofClaim, head + " zzz " + tail, 2, place + 1);
+            dueFault(seed, ofClaim, head + " cut9 " + tail, 1, place + 1);
+            dueFault(seed, ofClaim, head + " abcdefghi " + tail, 1, place + 1);
             if (maker.text.get(i).matches("[0-9]+")) {
-                dueFault(desk, seed, ofClaim, head + "123" + tail, 1, place);
+                dueFault(seed, ofClaim, head + "123" + tail, 1, place);
             }
             if (!ofClaim && !maker.text.get(i).matches("[a-z]{2,}|[{}]")) {
-                dueFault(desk, seed, false, head + "  ", 2, head.length() + 2);
+                dueFault(seed, false, head + "  ", 2, head.length() + 2);
             }
         }
     }
 
-    private static void dueFault(ConjurerDesk desk, int seed, boolean ofClaim, String text, int kind, int place) {
+    private static void dueFault(int seed, boolean ofClaim, String text, int kind, int place) {
         if (text.length() > 900) {
             return;
         }
-        tape(desk, text.chars().toArray());
-        due(seed, "the place of the fault of " + text, ofClaim ? desk.claim() : desk.trick(), -1 - place);
+        if (faultDesk.callsLeft() < CALLS_FOR_A_TEXT) {
+            faultDesk = new TestDesk();
+        }
+        TestDesk desk = faultDesk;
+        due(seed, "the place of the fault of " + text, ofClaim ? desk.claimOf(text) : desk.trickOf(text), -1 - place);
         due(seed, "the fault of " + text, desk.fault(), kind);
     }
 }

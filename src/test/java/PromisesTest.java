@@ -1,10 +1,5 @@
-import java.util.NoSuchElementException;
-
 /** What the document promises, promise by promise: ordinary inputs, the edges it names, wrong inputs. */
-public final class PromisesTest {
-    private static int checked = 0;
-    private static int wrong = 0;
-
+public final class PromisesTest extends DeskTest {
     public static void main(String[] args) {
         newObject();
         feed();
@@ -38,145 +33,51 @@ public final class PromisesTest {
         stack();
         at();
         count();
-        System.out.println(checked + " answers were looked at, " + wrong + " are wrong");
-        if (wrong != 0) {
-            System.exit(1);
-        }
-    }
-
-    private static void due(String what, long got, long want) {
-        checked++;
-        if (got != want) {
-            wrong++;
-            System.out.println(what + " answered " + got + ", due is " + want);
-        }
-    }
-
-    private static void due(String what, boolean got, boolean want) {
-        due(what, got ? 1 : 0, want ? 1 : 0);
-    }
-
-    private static void due(String what, String got, String want) {
-        checked++;
-        if (!got.equals(want)) {
-            wrong++;
-            System.out.println(what + " answered " + got + ", due is " + want);
-        }
-    }
-
-    /** Puts just these bytes on an empty tape. */
-    private static void tape(ConjurerDesk desk, int... bytes) {
-        desk.end(0);
-        for (int i = 0; i < bytes.length; i += 20) {
-            int[] numbers = new int[5];
-            for (int k = 0; k < 20; k++) {
-                int given = i + k < bytes.length ? bytes[i + k] : 0;
-                numbers[k / 4] |= given << (24 - 8 * (k % 4));
-            }
-            desk.feed(numbers[0], numbers[1], numbers[2], numbers[3], numbers[4]);
-        }
-        desk.end(bytes.length);
-    }
-
-    private static void tape(ConjurerDesk desk, String text) {
-        tape(desk, text.chars().toArray());
-    }
-
-    private static int trick(ConjurerDesk desk, String text) {
-        tape(desk, text);
-        return desk.trick();
-    }
-
-    private static int claim(ConjurerDesk desk, String text) {
-        tape(desk, text);
-        return desk.claim();
-    }
-
-    private static int perform(ConjurerDesk desk, int... choices) {
-        tape(desk, choices);
-        return desk.perform();
-    }
-
-    /** A PILE from its top on: card numbers, ^ behind those with the face up, * behind the MARKED one. */
-    private static String pile(ConjurerDesk desk, int p) {
-        StringBuilder shown = new StringBuilder();
-        for (int place = 1; place <= 9 && desk.look(p, place) != 0; place++) {
-            int seen = desk.look(p, place);
-            shown.append(seen & 15).append((seen & 16) != 0 ? "^" : "").append((seen & 32) != 0 ? "*" : "");
-        }
-        return shown.toString();
-    }
-
-    private static String piles(ConjurerDesk desk) {
-        return pile(desk, 0) + "|" + pile(desk, 1) + "|" + pile(desk, 2) + "|" + pile(desk, 3);
-    }
-
-    private static String startRow(ConjurerDesk desk) {
-        StringBuilder shown = new StringBuilder();
-        for (int k = 1; k <= desk.count(0); k++) {
-            shown.append(desk.at(k)).append(' ');
-        }
-        return shown.toString().trim();
-    }
-
-    /** Performs the text with n cards and these choices, and shows the PILES. */
-    private static String after(int n, String text, int... choices) {
-        ConjurerDesk desk = new ConjurerDesk();
-        desk.cards(n);
-        int steps = trick(desk, text);
-        if (steps < 0) {
-            return "fault " + desk.fault() + " at " + (-1 - steps);
-        }
-        int done = perform(desk, choices);
-        return done < 0 ? "stuck behind " + (-1 - done) + ": " + piles(desk) : piles(desk);
+        finish();
     }
 
     private static void dueFault(String text, int kind, int place) {
-        ConjurerDesk desk = new ConjurerDesk();
-        due("trick of <" + text + ">", trick(desk, text), -1 - place);
+        TestDesk desk = new TestDesk();
+        due("trick of <" + text + ">", desk.trickOf(text), -1 - place);
         due("fault of <" + text + ">", desk.fault(), kind);
         due("STEPS behind <" + text + ">", desk.count(1), 0);
         due("tape behind <" + text + ">", desk.count(2), 0);
     }
 
     private static void dueClaimFault(String text, int kind, int place) {
-        ConjurerDesk desk = new ConjurerDesk();
-        due("claim of <" + text + ">", claim(desk, text), -1 - place);
+        TestDesk desk = new TestDesk();
+        due("claim of <" + text + ">", desk.claimOf(text), -1 - place);
         due("fault of claim <" + text + ">", desk.fault(), kind);
         due("the claim stays behind <" + text + ">", desk.holds(), true);
     }
 
     private static void dueTruth(String text, boolean want) {
-        ConjurerDesk desk = new ConjurerDesk();
-        due("claim of <" + text + ">", claim(desk, text), 0);
+        TestDesk desk = new TestDesk();
+        due("claim of <" + text + ">", desk.claimOf(text), 0);
         due("<" + text + "> holds", desk.holds(), want);
     }
 
-    private static String repeat(String text, int times) {
-        return text.repeat(times);
-    }
-
     private static void newObject() {
-        ConjurerDesk desk = new ConjurerDesk();
+        TestDesk desk = new TestDesk();
         due("NONE", ConjurerDesk.NONE, -1);
         due("cards of a new one", desk.count(0), 8);
-        due("start of a new one", startRow(desk), "1 2 3 4 5 6 7 8");
+        due("start of a new one", desk.startRow(), "1 2 3 4 5 6 7 8");
         due("STEPS of a new one", desk.count(1), 0);
         due("tape of a new one", desk.count(2), 0);
         due("CHOICES of a new one", desk.count(3), 0);
         due("fault of a new one", desk.fault(), 0);
         due("claim of a new one", desk.holds(), true);
-        due("nothing performed", piles(desk), "|||");
+        due("nothing performed", desk.piles(), "|||");
         due("nothing run", desk.ends(0), -1);
         due("run of a new one", desk.run(), 0);
     }
 
     private static void feed() {
-        ConjurerDesk desk = new ConjurerDesk();
+        TestDesk desk = new TestDesk();
         due("feed", desk.feed(0x05860187, 0x02030408, 0, -1, 0), 20);
         desk.end(8);
         due("bytes come highest first, unsigned", desk.start(), true);
-        due("the fed row", startRow(desk), "5 134 1 135 2 3 4 8");
+        due("the fed row", desk.startRow(), "5 134 1 135 2 3 4 8");
         for (int i = 1; i <= 45; i++) {
             due("feed " + i, desk.feed(i, i, i, i, i), 20 * i);
         }
@@ -192,7 +93,7 @@ public final class PromisesTest {
     }
 
     private static void end() {
-        ConjurerDesk desk = new ConjurerDesk();
+        TestDesk desk = new TestDesk();
         due("end(0) of an empty tape", desk.end(0), true);
         due("end(1) of an empty tape", desk.end(1), false);
         due("end(-1)", desk.end(-1), false);
@@ -204,22 +105,22 @@ public final class PromisesTest {
         due("seven left", desk.count(2), 7);
         due("end(8) of seven", desk.end(8), false);
         due("end(least)", desk.end(Integer.MIN_VALUE), false);
-        tape(desk, "cut a 1;cut");
+        desk.tape("cut a 1;cut");
         desk.end(8);
         due("the first ones stay", desk.trick(), 1);
     }
 
     private static void cards() {
-        ConjurerDesk desk = new ConjurerDesk();
-        trick(desk, "cut a free;");
-        claim(desk, "card a 1 = 1");
-        trick(desk, "cut a free;");
+        TestDesk desk = new TestDesk();
+        desk.trickOf("cut a free;");
+        desk.claimOf("card a 1 = 1");
+        desk.trickOf("cut a free;");
         desk.card(3, 13, 3, 1);
         due("run ahead of cards", desk.run(), 1);
-        due("performed ahead of cards", perform(desk, 1), 1);
-        tape(desk, 1, 2, 3);
-        claim(desk, "1 =");
-        tape(desk, 1, 2, 3);
+        due("performed ahead of cards", desk.performWith(1), 1);
+        desk.tape(1, 2, 3);
+        desk.claimOf("1 =");
+        desk.tape(1, 2, 3);
         due("cards(1)", desk.cards(1), false);
         due("cards(10)", desk.cards(10), false);
         due("cards(-8)", desk.cards(-8), false);
@@ -228,30 +129,30 @@ public final class PromisesTest {
         due("refused: performed stays", desk.look(0, 1), 2);
         due("cards(9)", desk.cards(9), true);
         due("nine cards", desk.count(0), 9);
-        due("start of nine", startRow(desk), "1 2 3 4 5 6 7 8 9");
+        due("start of nine", desk.startRow(), "1 2 3 4 5 6 7 8 9");
         due("ends are forgotten", desk.ends(0), -1);
         due("the row is forgotten", desk.choice(0), -1);
-        due("what was performed is forgotten", piles(desk), "|||");
+        due("what was performed is forgotten", desk.piles(), "|||");
         due("its CHOICES are", desk.count(3), 0);
         due("the TRICK stays", desk.count(1), 1);
         due("the tape stays", desk.count(2), 3);
         due("the FAULT stays", desk.fault(), 2);
         due("the CLAIM stays, told of the START", desk.holds(), true);
-        claim(desk, "value a 3 = 3 and suit a 3 = 2 and colour a 3 = 0 and value a 9 = 9 and suit a 9 = 0");
+        desk.claimOf("value a 3 = 3 and suit a 3 = 2 and colour a 3 = 0 and value a 9 = 9 and suit a 9 = 0");
         due("cards are as at first", desk.holds(), true);
         due("cards(2)", desk.cards(2), true);
-        due("start of two", startRow(desk), "1 2");
-        tape(desk, 130, 1);
+        due("start of two", desk.startRow(), "1 2");
+        desk.tape(130, 1);
         desk.start();
         due("cards(2) again", desk.cards(2), true);
-        due("start face down again", startRow(desk), "1 2");
+        due("start face down again", desk.startRow(), "1 2");
     }
 
     private static void card() {
-        ConjurerDesk desk = new ConjurerDesk();
+        TestDesk desk = new TestDesk();
         due("card(1, 13, 3, 1)", desk.card(1, 13, 3, 1), true);
         due("card(8, 1, 0, 0)", desk.card(8, 1, 0, 0), true);
-        claim(desk, "value a 1 = 13 and suit a 1 = 3 and colour a 1 = 1 and card a 1 = 1"
+        desk.claimOf("value a 1 = 13 and suit a 1 = 3 and colour a 1 = 1 and card a 1 = 1"
                 + " and value a 8 = 1 and suit a 8 = 0 and colour a 8 = 0 and card a 8 = 8");
         due("they have these", desk.holds(), true);
         int[][] bad = {{0, 1, 0, 0}, {9, 1, 0, 0}, {-1, 1, 0, 0}, {1, 0, 0, 0}, {1, 14, 0, 0},
@@ -266,44 +167,44 @@ public final class PromisesTest {
     }
 
     private static void start() {
-        ConjurerDesk desk = new ConjurerDesk();
+        TestDesk desk = new TestDesk();
         desk.cards(3);
-        tape(desk, 3, 129, 2);
+        desk.tape(3, 129, 2);
         due("start", desk.start(), true);
         due("the tape is empty", desk.count(2), 0);
-        due("the start", startRow(desk), "3 129 2");
-        perform(desk);
-        due("it lies so", piles(desk), "31^2|||");
+        due("the start", desk.startRow(), "3 129 2");
+        desk.performWith();
+        due("it lies so", desk.piles(), "31^2|||");
         int[][] bad = {{}, {1, 2}, {1, 2, 3, 1}, {1, 2, 2}, {1, 2, 130}, {0, 1, 2}, {1, 2, 4},
             {128, 1, 2}, {1, 2, 67}, {1, 2, 195}, {1, 2, 19}};
         for (int[] b : bad) {
-            tape(desk, b);
+            desk.tape(b);
             due("a wrong start", desk.start(), false);
             due("tape behind a wrong start", desk.count(2), 0);
-            due("the start stays", startRow(desk), "3 129 2");
+            due("the start stays", desk.startRow(), "3 129 2");
         }
-        trick(desk, "cut a 1;");
-        due("what was performed stays", piles(desk), "31^2|||");
+        desk.trickOf("cut a 1;");
+        due("what was performed stays", desk.piles(), "31^2|||");
     }
 
     private static void trickCounts() {
-        ConjurerDesk desk = new ConjurerDesk();
-        due("an empty trick", trick(desk, ""), 0);
-        due("blanks alone", trick(desk, " \n \n"), 0);
-        due("every STEP", trick(desk, "cut a 1; deal a 0 to b; move a all to b; take b free to c; turn a 9;"
+        TestDesk desk = new TestDesk();
+        due("an empty trick", desk.trickOf(""), 0);
+        due("blanks alone", desk.trickOf(" \n \n"), 0);
+        due("every STEP", desk.trickOf("cut a 1; deal a 0 to b; move a all to b; take b free to c; turn a 9;"
                 + "flip a 9; riffle a b to c; faro a b to a; down a to b; swap c d; mark d 1; times 2 { cut a 1; }"
                 + "if 1 = 1 { cut a 1; } else { cut a 2; cut a 3; }"), 17);
         due("count(1)", desk.count(1), 17);
         due("the tape is empty", desk.count(2), 0);
-        due("without blanks", trick(desk, "cut a 1;if(size a=1){}else{}"), 2);
-        due("with feeds", trick(desk, "cut\na\n1\n;\n"), 1);
-        due("numbers of two digits", trick(desk, "cut a 09;times 02{}mark a 01;"), 3);
-        due("empty { }", trick(desk, "times 9 { } if 1 = 1 { } else { }"), 2);
-        due("40 STEPS", trick(desk, repeat("cut a 1;", 40)), 40);
-        due("40 STEPS within one another", trick(desk, "times 2{" + repeat("cut a 1;", 38) + "}cut a 1;"), 40);
-        due("a fault", trick(desk, "cut a 1"), -8);
+        due("without blanks", desk.trickOf("cut a 1;if(size a=1){}else{}"), 2);
+        due("with feeds", desk.trickOf("cut\na\n1\n;\n"), 1);
+        due("numbers of two digits", desk.trickOf("cut a 09;times 02{}mark a 01;"), 3);
+        due("empty { }", desk.trickOf("times 9 { } if 1 = 1 { } else { }"), 2);
+        due("40 STEPS", desk.trickOf("cut a 1;".repeat(40)), 40);
+        due("40 STEPS within one another", desk.trickOf("times 2{" + "cut a 1;".repeat(38) + "}cut a 1;"), 40);
+        due("a fault", desk.trickOf("cut a 1"), -8);
         due("the TRICK stays", desk.count(1), 40);
-        due("a trick again", trick(desk, "cut a 1;"), 1);
+        due("a trick again", desk.trickOf("cut a 1;"), 1);
         due("no fault now", desk.fault(), 0);
     }
 
@@ -339,16 +240,16 @@ public final class PromisesTest {
 
     /** What was cut off by end() is no longer there, even if it would go on with the last TOKEN. */
     private static void bytesBehindTheEnd() {
-        ConjurerDesk desk = new ConjurerDesk();
-        tape(desk, "1 = 12");
+        TestDesk desk = new TestDesk();
+        desk.tape("1 = 12");
         desk.end(5);
         due("1 = 1 of 1 = 12", desk.claim(), 0);
         due("it holds", desk.holds(), true);
-        tape(desk, "1 != 2");
+        desk.tape("1 != 2");
         desk.end(3);
         due("1 ! of 1 != 2", desk.claim(), -3);
         due("its fault", desk.fault(), 1);
-        tape(desk, "cut a 1;cut a 1;");
+        desk.tape("cut a 1;cut a 1;");
         desk.end(8);
         due("one STEP of two", desk.trick(), 1);
     }
@@ -399,50 +300,44 @@ public final class PromisesTest {
         dueFault("if 1 = 1 cut a 1;", 2, 9);
         dueFault("if 1 = 1 { } else cut a 1;", 2, 18);
         dueFault("if 1 = 1 { } else { } else { }", 2, 22);
-        due("the target may be either", trick(new ConjurerDesk(), "riffle a b to b; faro c d to c;"), 2);
+        due("the target may be either", new TestDesk().trickOf("riffle a b to b; faro c d to c;"), 2);
     }
 
     private static void faultsOfNesting() {
         String four = "times 2 { times 2 { if 1 = 1 { if 1 = 1 { ";
-        due("four { in one another", trick(new ConjurerDesk(), four + "cut a 1; } else { } } } }"), 5);
+        due("four { in one another", new TestDesk().trickOf(four + "cut a 1; } else { } } } }"), 5);
         dueFault(four + "times 2 { } } } } }", 4, four.length() + 8);
         dueFault(four + "if 1 = 1 { } } } } }", 4, four.length() + 9);
         dueFault(four + "times 1 { } } } } }", 3, four.length() + 6);
         dueFault(four + "} else { if 1 = 1 { } } } } }", 4, four.length() + 18);
-        due("one behind another", trick(new ConjurerDesk(), repeat("times 2 { }", 7)), 7);
-        String forty = repeat("cut a 1;", 40);
+        due("one behind another", new TestDesk().trickOf("times 2 { }".repeat(7)), 7);
+        String forty = "cut a 1;".repeat(40);
         dueFault(forty + " turn a 1;", 4, 321);
         dueFault(forty + "a", 2, 320);
         dueFault(forty + "Turn a 1;", 1, 320);
         dueFault(forty + "if", 4, 320);
-        dueFault("times 2{" + repeat("cut a 1;", 39) + "mark a 1;}", 4, 320);
+        dueFault("times 2{" + "cut a 1;".repeat(39) + "mark a 1;}", 4, 320);
         dueFault("if not(not(not(not(not 1 = 1)))) { }", 4, 19);
-        due("eight in one another", trick(new ConjurerDesk(), "if not(not(not(not(1 = 1)))) { }"), 1);
+        due("eight in one another", new TestDesk().trickOf("if not(not(not(not(1 = 1)))) { }"), 1);
     }
 
     private static void faultsOfLength() {
-        ConjurerDesk desk = new ConjurerDesk();
-        due("8 CHOICES", trick(desk, "times 2 { times 2 { cut a free; riffle a b to c; } }"), 4);
+        TestDesk desk = new TestDesk();
+        due("8 CHOICES", desk.trickOf("times 2 { times 2 { cut a free; riffle a b to c; } }"), 4);
         dueFault("times 9 { cut a free; }", 5, 23);
         dueFault("times 3 { times 3 { mark a free; } }  ", 5, 38);
-        dueFault(repeat("flip a free;", 9), 5, 108);
+        dueFault("flip a free;".repeat(9), 5, 108);
         dueFault("times 4 { if 1 = 1 { cut a free; cut a 1; } else { riffle a b to a; turn a free; } }", 5, 84);
-        due("both ways together, 8", trick(desk, "times 4 { if 1 = 1 { cut a free; } else { riffle a b to a; } }"), 4);
+        due("both ways together, 8", desk.trickOf("times 4 { if 1 = 1 { cut a free; } else { riffle a b to a; } }"), 4);
         // 1 + 9 * (1 + 9 * 6) = 496
-        String often = "times 9 { times 9 { " + repeat("cut a 1; ", 6) + "} }";
-        due("496 STEPS", trick(desk, often), 8);
-        due("500 STEPS", trick(desk, often + repeat("cut a 1;", 4)), 12);
-        String tooOften = often + repeat("cut a 1;", 5);
+        String often = "times 9 { times 9 { " + "cut a 1; ".repeat(6) + "} }";
+        due("496 STEPS", desk.trickOf(often), 8);
+        due("500 STEPS", desk.trickOf(often + "cut a 1;".repeat(4)), 12);
+        String tooOften = often + "cut a 1;".repeat(5);
         dueFault(tooOften, 6, tooOften.length());
         dueFault(often + " if 1 = 1 { cut a 1; cut a 1; } else { cut a 1; cut a 1; }", 6, often.length() + 58);
-        dueFault(often + repeat("cut a free;", 9), 5, often.length() + 99);
-        due("performed 496 times", perform(deskWith(often)), 496);
-    }
-
-    private static ConjurerDesk deskWith(String text) {
-        ConjurerDesk desk = new ConjurerDesk();
-        trick(desk, text);
-        return desk;
+        dueFault(often + "cut a free;".repeat(9), 5, often.length() + 99);
+        due("performed 496 times", deskWith(8, often).performWith(), 496);
     }
 
     private static void faultsOfClaims() {
@@ -487,41 +382,41 @@ public final class PromisesTest {
     }
 
     private static void claimStays() {
-        ConjurerDesk desk = new ConjurerDesk();
-        due("a claim", claim(desk, "size a = 7"), 0);
+        TestDesk desk = new TestDesk();
+        due("a claim", desk.claimOf("size a = 7"), 0);
         due("the tape is empty", desk.count(2), 0);
         due("it does not hold", desk.holds(), false);
-        due("a fault", claim(desk, "size a = 8 and"), -15);
+        due("a fault", desk.claimOf("size a = 8 and"), -15);
         due("the tape is empty then, too", desk.count(2), 0);
         due("the old one stays", desk.holds(), false);
-        due("another", claim(desk, "size a = 8"), 0);
+        due("another", desk.claimOf("size a = 8"), 0);
         due("it holds", desk.holds(), true);
         due("the TRICK stays", desk.count(1), 0);
-        due("ones one behind another are in none", claim(desk, repeat("not (1 = 2) and ", 12) + "1 = 1"), 0);
+        due("ones one behind another are in none", desk.claimOf("not (1 = 2) and ".repeat(12) + "1 = 1"), 0);
         due("so they hold", desk.holds(), true);
-        due("128 in a row", claim(desk, repeat("1=2 or ", 127) + "1=1"), 0);
+        due("128 in a row", desk.claimOf("1=2 or ".repeat(127) + "1=1"), 0);
         due("the last one holds", desk.holds(), true);
-        due("900 bytes", claim(desk, repeat("1=1 and ", 112) + "1=2 "), 0);
+        due("900 bytes", desk.claimOf("1=1 and ".repeat(112) + "1=2 "), 0);
         due("the last one does not", desk.holds(), false);
     }
 
     private static void fault() {
-        ConjurerDesk desk = new ConjurerDesk();
+        TestDesk desk = new TestDesk();
         due("ahead of any", desk.fault(), 0);
-        trick(desk, "cut a 10;");
+        desk.trickOf("cut a 10;");
         due("of the trick", desk.fault(), 3);
         due("told again", desk.fault(), 3);
-        claim(desk, "#");
+        desk.claimOf("#");
         due("of the claim", desk.fault(), 1);
-        claim(desk, "1 = 1");
+        desk.claimOf("1 = 1");
         due("none", desk.fault(), 0);
-        trick(desk, repeat("cut a free;", 9));
+        desk.trickOf("cut a free;".repeat(9));
         due("of choices", desk.fault(), 5);
         desk.run();
         desk.perform();
         desk.cards(3);
         due("it stays", desk.fault(), 5);
-        trick(desk, "");
+        desk.trickOf("");
         due("an empty one has none", desk.fault(), 0);
     }
 
@@ -542,10 +437,10 @@ public final class PromisesTest {
         dueTruth("2 > 2", false);
         dueTruth("2 >= 2", true);
         dueTruth("1 >= 2", false);
-        ConjurerDesk desk = new ConjurerDesk();
-        trick(desk, "mark a 3; turn a 2; deal a 4 to b;");
-        perform(desk);
-        claim(desk, "up b = 2 and up a = 0 and where b = 2 and where a = 0 and face b 3 = 1 and face b 1 = 0"
+        TestDesk desk = new TestDesk();
+        desk.trickOf("mark a 3; turn a 2; deal a 4 to b;");
+        desk.performWith();
+        desk.claimOf("up b = 2 and up a = 0 and where b = 2 and where a = 0 and face b 3 = 1 and face b 1 = 0"
                 + " and card b 3 = 1 and value b 4 = 2 and suit b 4 = 1 and colour b 4 = 1");
         due("what lies as performed", desk.holds(), true);
     }
@@ -560,22 +455,22 @@ public final class PromisesTest {
         dueTruth("each 5 suit a", false);
         dueTruth("each 8 value a", true);
         dueTruth("each 9 suit a", true);
-        ConjurerDesk desk = new ConjurerDesk();
+        TestDesk desk = new TestDesk();
         desk.cards(5);
         for (int c = 1; c <= 5; c++) {
             desk.card(c, c, c == 3 ? 1 : 0, 1);
         }
-        claim(desk, "alike colour a and not alike suit a and each 9 suit a");
+        desk.claimOf("alike colour a and not alike suit a and each 9 suit a");
         due("alike colours", desk.holds(), true);
-        claim(desk, "each 2 suit a");
+        desk.claimOf("each 2 suit a");
         due("the first two are alike", desk.holds(), false);
         desk.card(1, 1, 1, 1);
         desk.card(4, 4, 0, 1);
         // suits 1 0 | 1 0 | 0: neighbours across groups and the card left over do not matter
         desk.card(5, 4, 0, 1);
-        claim(desk, "each 2 suit a");
+        desk.claimOf("each 2 suit a");
         due("two by two from the top on", desk.holds(), true);
-        claim(desk, "rising a");
+        desk.claimOf("rising a");
         due("equal values do not rise", desk.holds(), false);
         desk.card(5, 6, 0, 1);
         due("they do now", desk.holds(), true);
@@ -583,19 +478,19 @@ public final class PromisesTest {
         due("the first two do not", desk.holds(), false);
         desk.card(1, 13, 0, 1);
         due("falling", desk.holds(), false);
-        trick(desk, "move a 4 to b;");
-        perform(desk);
-        claim(desk, "rising a and alike suit a and not rising b");
+        desk.trickOf("move a 4 to b;");
+        desk.performWith();
+        desk.claimOf("rising a and alike suit a and not rising b");
         due("one card rises", desk.holds(), true);
     }
 
     private static void testsOfFewCards() {
-        ConjurerDesk desk = new ConjurerDesk();
+        TestDesk desk = new TestDesk();
         desk.cards(4);
         for (int c = 1; c <= 4; c++) {
             desk.card(c, 7, 2, 0);
         }
-        claim(desk, "alike value a and alike suit a and alike colour a");
+        desk.claimOf("alike value a and alike suit a and alike colour a");
         due("all are alike", desk.holds(), true);
         desk.card(4, 8, 2, 0);
         due("but for the last one", desk.holds(), false);
@@ -606,11 +501,11 @@ public final class PromisesTest {
         desk.card(1, 7, 2, 1);
         due("but for the first one", desk.holds(), false);
         desk.cards(4);
-        claim(desk, "each 4 suit a and each 2 suit a");
+        desk.claimOf("each 4 suit a and each 2 suit a");
         due("four suits", desk.holds(), true);
         desk.card(4, 1, 2, 0);
         due("the last of the last group", desk.holds(), false);
-        claim(desk, "each 3 suit a");
+        desk.claimOf("each 3 suit a");
         due("it is in no group of three", desk.holds(), true);
     }
 
@@ -732,138 +627,138 @@ public final class PromisesTest {
     }
 
     private static void run() {
-        ConjurerDesk desk = new ConjurerDesk();
-        trick(desk, "cut a free; deal a 4 to b; riffle a b to a;");
-        claim(desk, "each 2 colour a");
+        TestDesk desk = new TestDesk();
+        desk.trickOf("cut a free; deal a 4 to b; riffle a b to a;");
+        desk.claimOf("each 2 colour a");
         due("Gilbreath's trick holds", desk.run(), 0);
         due("told of all", desk.ends(0), desk.ends(1));
-        claim(desk, "each 4 suit a");
+        desk.claimOf("each 4 suit a");
         due("of four suits too", desk.run(), 0);
-        claim(desk, "rising a");
+        desk.claimOf("rising a");
         due("not of each", desk.run(), 1);
-        trick(desk, "mark a free;");
-        claim(desk, "where a > 0");
+        desk.trickOf("mark a free;");
+        desk.claimOf("where a > 0");
         due("marks are told apart", desk.run(), 0);
         due("eight of them", desk.ends(0), 8);
-        trick(desk, "turn a free;");
-        claim(desk, "1 = 1");
+        desk.trickOf("turn a free;");
+        desk.claimOf("1 = 1");
         desk.run();
         due("faces are told apart", desk.ends(0), 9);
-        trick(desk, "cut a free; cut a free;");
+        desk.trickOf("cut a free; cut a free;");
         desk.run();
         due("each way once", desk.ends(0), 8);
-        trick(desk, "flip a free; if face a 1 = 1 { flip a 1; } else { if face a 2 = 1 { flip a 2; } }");
+        desk.trickOf("flip a free; if face a 1 = 1 { flip a 1; } else { if face a 2 = 1 { flip a 2; } }");
         desk.run();
         due("ways that come together", desk.ends(0), 7);
-        trick(desk, "times 2 { times 2 { times 2 { times 2 { cut a 1; } } } } cut a 1;");
-        claim(desk, "card a 1 = 2");
+        desk.trickOf("times 2 { times 2 { times 2 { times 2 { cut a 1; } } } } cut a 1;");
+        desk.claimOf("card a 1 = 2");
         due("times four deep", desk.run(), 0);
-        trick(desk, "cut a free; if card a 1 < 5 { if card a 1 < 3 { if card a 1 < 2 { if 1 = 1 { cut a 7; } } else"
+        desk.trickOf("cut a free; if card a 1 < 5 { if card a 1 < 3 { if card a 1 < 2 { if 1 = 1 { cut a 7; } } else"
                 + "{ if 1 = 2 { } else { cut a 6; } } } else { if card a 1 = 3 { cut a 5; } else { cut a 4; } } }");
-        claim(desk, "card a 1 > 4");
+        desk.claimOf("card a 1 > 4");
         due("ifs four deep", desk.run(), 0);
         due("all come to one of these", desk.ends(0), 4);
-        tape(desk, 129, 2, 3, 4, 5, 6, 7, 8);
+        desk.tape(129, 2, 3, 4, 5, 6, 7, 8);
         desk.start();
-        trick(desk, "");
-        claim(desk, "up a = 1 and face a 1 = 1");
+        desk.trickOf("");
+        desk.claimOf("up a = 1 and face a 1 = 1");
         due("from the START", desk.run(), 0);
         desk.run();
         due("run leaves what is performed alone", desk.look(0, 1), 0);
     }
 
     private static void largeRun() {
-        ConjurerDesk desk = new ConjurerDesk();
+        TestDesk desk = new TestDesk();
         desk.cards(9);
         // 9 * 8 * 7 * 6 = 3024 orders of four cards taken one by one
-        trick(desk, "times 4 { take a free to b; }");
+        desk.trickOf("times 4 { take a free to b; }");
         due("3024 ways are LARGE", desk.run(), 2);
         due("no ends", desk.ends(0), -1);
         due("none hold", desk.ends(1), -1);
         due("no row", desk.ends(2), -1);
         due("no choice", desk.choice(0), -1);
-        trick(desk, "times 3 { take a free to b; } down b to a;");
+        desk.trickOf("times 3 { take a free to b; } down b to a;");
         due("504 are not", desk.run(), 0);
         due("504 ends", desk.ends(0), 504);
-        trick(desk, "times 4 { take a free to b; } if 1 = 1 { times 4 { move b all to a; } }");
+        desk.trickOf("times 4 { take a free to b; } if 1 = 1 { times 4 { move b all to a; } }");
         due("LARGE in the middle is LARGE", desk.run(), 2);
-        trick(desk, "mark a free; times 3 { take a free to b; } if where b = 0 { take a 1 to b; }");
+        desk.trickOf("mark a free; times 3 { take a free to b; } if where b = 0 { take a 1 to b; }");
         due("9 * 504 are LARGE", desk.run(), 2);
         due("forgets the latest run", desk.ends(0), -1);
         desk.cards(8);
-        trick(desk, "times 4 { take a free to b; }");
+        desk.trickOf("times 4 { take a free to b; }");
         due("1680 are not", desk.run(), 0);
         due("1680 ends", desk.ends(0), 1680);
-        trick(desk, "times 4 { take a free to b; } flip b 1;");
+        desk.trickOf("times 4 { take a free to b; } flip b 1;");
         due("1680 flipped", desk.run(), 0);
-        trick(desk, "times 4 { take a free to b; } mark b free;");
+        desk.trickOf("times 4 { take a free to b; } mark b free;");
         due("6720 are LARGE", desk.run(), 2);
         desk.cards(9);
         // 126 * 9 = 1134 ways; the ways of an if count by themselves and together
-        trick(desk, "move a 4 to b; riffle a b to a; mark a free;");
+        desk.trickOf("move a 4 to b; riffle a b to a; mark a free;");
         due("1134 ways", desk.run(), 0);
         due("1134 ends", desk.ends(0), 1134);
-        trick(desk, "move a 4 to b; riffle a b to a; flip a free; flip a free; flip a 1;");
+        desk.trickOf("move a 4 to b; riffle a b to a; flip a free; flip a free; flip a 1;");
         due("126 * 37 are LARGE", desk.run(), 2);
         // 9 * 9 * 37 = 2997 ways
-        trick(desk, "cut a free; mark a free; flip a free; flip a free;");
+        desk.trickOf("cut a free; mark a free; flip a free; flip a free;");
         due("2997 ways", desk.run(), 0);
         due("2997 ends", desk.ends(0), 2997);
-        trick(desk, "cut a free; mark a free; flip a free; if up a = 1 { flip a free; } else { }");
+        desk.trickOf("cut a free; mark a free; flip a free; if up a = 1 { flip a free; } else { }");
         due("still 2997", desk.run(), 0);
         largeEdge();
         largeWithIfAndTimes();
     }
 
     private static void largeEdge() {
-        ConjurerDesk desk = new ConjurerDesk();
+        TestDesk desk = new TestDesk();
         desk.cards(6);
         // 120 orders of five cards, one of five MARKED, one of five with its face up: just 3000 ways
         String most = "take a 6 to c; times 4 { take a free to b; } move a 1 to b; mark b free; flip b free;";
-        trick(desk, most);
-        claim(desk, "size b = 5");
+        desk.trickOf(most);
+        desk.claimOf("size b = 5");
         due("3000 ways are not LARGE", desk.run(), 0);
         due("3000 ends", desk.ends(0), 3000);
         String oneWay = "if card b 1 = 1 and card b 2 = 2 and card b 3 = 3 and card b 4 = 4 and where b = 1"
                 + " and face b 1 = 1 {";
-        trick(desk, most + oneWay + " move c all to d; }");
+        desk.trickOf(most + oneWay + " move c all to d; }");
         due("one of them otherwise", desk.run(), 0);
         due("still 3000 ends", desk.ends(0), 3000);
-        trick(desk, most + oneWay + " move c free to d; }");
+        desk.trickOf(most + oneWay + " move c free to d; }");
         due("3001 ways are LARGE", desk.run(), 2);
-        trick(desk, most + oneWay + " move c free to d; } move d all to c; down b to c; times 9 { swap a b; }");
+        desk.trickOf(most + oneWay + " move c free to d; } move d all to c; down b to c; times 9 { swap a b; }");
         due("LARGE though they come together again", desk.run(), 2);
     }
 
     private static void largeWithIfAndTimes() {
-        ConjurerDesk desk = new ConjurerDesk();
+        TestDesk desk = new TestDesk();
         desk.cards(9);
-        trick(desk, "times 3 { take a free to b; } if card b 1 = 1 { cut a 1; } else { mark a free; }");
+        desk.trickOf("times 3 { take a free to b; } if card b 1 = 1 { cut a 1; } else { mark a free; }");
         due("56 and 2688 ways", desk.run(), 0);
         due("together", desk.ends(0), 56 + 2688);
-        trick(desk, "times 3 { take a free to b; } if card b 1 = 1 { mark a free; } else { mark a free; }");
+        desk.trickOf("times 3 { take a free to b; } if card b 1 = 1 { mark a free; } else { mark a free; }");
         due("336 and 2688 ways are LARGE together", desk.run(), 2);
-        trick(desk, "times 3 { take a free to b; } if card b 1 = 1 { mark a free; mark a 1; } else { mark a free; }");
+        desk.trickOf("times 3 { take a free to b; } if card b 1 = 1 { mark a free; mark a 1; } else { mark a free; }");
         due("336 that come down to 56, and 2688", desk.run(), 0);
         desk.cards(8);
-        trick(desk, "times 4 { take a free to b; } times 9 { flip b 1; cut a 1; }");
+        desk.trickOf("times 4 { take a free to b; } times 9 { flip b 1; cut a 1; }");
         due("each time by itself", desk.run(), 0);
         due("1680 ends of many", desk.ends(0), 1680);
-        trick(desk, "times 4 { take a free to b; } if card b 1 < 5 { flip b 1; } else { if card b 2 < 5 { flip b 2; }"
+        desk.trickOf("times 4 { take a free to b; } if card b 1 < 5 { flip b 1; } else { if card b 2 < 5 { flip b 2; }"
                 + " else { times 2 { if 1 = 1 { flip a 1; } } } } if up b = 1 { turn b all; }");
         due("ifs within one another", desk.run(), 0);
         due("none is lost", desk.ends(0), 1680);
     }
 
     private static void endsAndChoices() {
-        ConjurerDesk desk = new ConjurerDesk();
+        TestDesk desk = new TestDesk();
         due("ahead of any", desk.ends(0), -1);
         due("1 ahead of any", desk.ends(1), -1);
         due("2 ahead of any", desk.ends(2), -1);
         due("choice ahead of any", desk.choice(0), -1);
         desk.cards(4);
-        trick(desk, "cut a free; take a free to b; if card b 1 = 3 { flip b 1; cut a free; }");
-        claim(desk, "up b = 0 or not card a 2 = 1");
+        desk.trickOf("cut a free; take a free to b; if card b 1 = 3 { flip b 1; cut a free; }");
+        desk.claimOf("up b = 0 or not card a 2 = 1");
         // flipped means 3 is in b; the first row: cut 0, take 3rd (2), a is 1 2 4, cut 2: 4 1 2
         due("not of each", desk.run(), 1);
         due("each card taken, the others in three turns", desk.ends(0), 4 * 3);
@@ -876,20 +771,20 @@ public final class PromisesTest {
         due("none below", desk.choice(-1), -1);
         due("ends(3)", desk.ends(3), -1);
         due("ends(-1)", desk.ends(-1), -1);
-        trick(desk, "");
-        claim(desk, "1 = 1");
+        desk.trickOf("");
+        desk.claimOf("1 = 1");
         desk.card(1, 2, 2, 1);
-        tape(desk, 4, 3, 2, 1);
+        desk.tape(4, 3, 2, 1);
         desk.start();
         due("the latest run stays told", desk.ends(0), 12);
         due("so does its row", desk.choice(1), 2);
-        claim(desk, "1 = 2");
+        desk.claimOf("1 = 2");
         due("a trick without CHOICES", desk.run(), 1);
         due("an empty row", desk.ends(2), 0);
         due("without a first one", desk.choice(0), -1);
         due("one end", desk.ends(0), 1);
         due("none holds", desk.ends(1), 0);
-        claim(desk, "1 = 1");
+        desk.claimOf("1 = 1");
         due("it holds", desk.run(), 0);
         due("no row", desk.ends(2), -1);
         due("no choice", desk.choice(0), -1);
@@ -898,20 +793,20 @@ public final class PromisesTest {
     }
 
     private static void eightChoices() {
-        ConjurerDesk desk = new ConjurerDesk();
+        TestDesk desk = new TestDesk();
         desk.cards(9);
-        trick(desk, "move a 4 to b; riffle a b to a; move a 4 to b; cut a free; cut a free; cut b free;"
+        desk.trickOf("move a 4 to b; riffle a b to a; move a 4 to b; cut a free; cut a free; cut b free;"
                 + "swap a b; cut a free; cut a free; cut a free; cut b free;");
         due("eight CHOICES", desk.count(1), 11);
-        claim(desk, "1 = 2");
+        desk.claimOf("1 = 2");
         due("LARGE or not", desk.run(), 1);
         due("eight in the row", desk.ends(2), 8);
         for (int k = 0; k < 8; k++) {
             due("choice " + k, desk.choice(k), 0);
         }
         due("no ninth", desk.choice(8), -1);
-        trick(desk, "move a 4 to b; riffle a b to a; times 7 { cut a free; }");
-        claim(desk, "not card a 1 = 1 or not card a 9 = 9 or not card a 2 = 2 or not card a 4 = 4 or not card a 8 = 8"
+        desk.trickOf("move a 4 to b; riffle a b to a; times 7 { cut a free; }");
+        desk.claimOf("not card a 1 = 1 or not card a 9 = 9 or not card a 2 = 2 or not card a 4 = 4 or not card a 8 = 8"
                 + " or not card a 3 = 3 or not card a 6 = 6 or not card a 5 = 5");
         due("rising is found", desk.run(), 1);
         // The first riffle that is a turn of 1 .. 9 is the first one: 5 6 7 8 9 1 2 3 4.
@@ -920,29 +815,29 @@ public final class PromisesTest {
             due("cut 0 at " + k, desk.choice(k), 0);
         }
         due("cut at last", desk.choice(7), 5);
-        trick(desk, "move a 4 to b; riffle a b to c;");
-        claim(desk, "not rising c");
+        desk.trickOf("move a 4 to b; riffle a b to c;");
+        desk.claimOf("not rising c");
         due("the last riffle", desk.run(), 1);
         due("it is number 125", desk.choice(0), 125);
     }
 
     private static void shorterRows() {
-        ConjurerDesk desk = new ConjurerDesk();
+        TestDesk desk = new TestDesk();
         desk.cards(3);
         // cut 0: 1 2 3, one CHOICE more; cut 1: 2 3 1, none more
-        trick(desk, "cut a free; if card a 1 = 1 { flip a free; }");
-        claim(desk, "up a = 0 and card a 1 = 1 or up a = 1 and not face a 3 = 1");
+        desk.trickOf("cut a free; if card a 1 = 1 { flip a free; }");
+        desk.claimOf("up a = 0 and card a 1 = 1 or up a = 1 and not face a 3 = 1");
         due("rows of unlike length", desk.run(), 1);
         due("the longer one is ahead by its CHOICES", desk.ends(2), 2);
         due("cut 0", desk.choice(0), 0);
         due("flip the third", desk.choice(1), 2);
-        claim(desk, "up a = 1");
+        desk.claimOf("up a = 1");
         desk.run();
         due("the shorter one", desk.ends(2), 1);
         due("cut 1", desk.choice(0), 1);
         // two rows to one end: [0, 1] and [1, 0]
-        trick(desk, "cut a free; cut a free;");
-        claim(desk, "not card a 1 = 2");
+        desk.trickOf("cut a free; cut a free;");
+        desk.claimOf("not card a 1 = 2");
         desk.run();
         due("the first of all that lead there", desk.choice(0), 0);
         due("its second CHOICE", desk.choice(1), 1);
@@ -950,50 +845,50 @@ public final class PromisesTest {
     }
 
     private static void perform() {
-        ConjurerDesk desk = new ConjurerDesk();
+        TestDesk desk = new TestDesk();
         desk.cards(4);
-        due("an empty trick", perform(desk), 0);
-        trick(desk, "cut a 1; times 2 { cut a free; if card a 1 = 1 { cut a 1; cut a 1; } } turn a free;");
-        due("all of it", perform(desk, 3, 0, 4, 7), 1 + 1 + 2 * 2 + 2 + 1);
+        due("an empty trick", desk.performWith(), 0);
+        desk.trickOf("cut a 1; times 2 { cut a free; if card a 1 = 1 { cut a 1; cut a 1; } } turn a free;");
+        due("all of it", desk.performWith(3, 0, 4, 7), 1 + 1 + 2 * 2 + 2 + 1);
         due("the tape is empty then", desk.count(2), 0);
         due("it took three", desk.count(3), 3);
-        due("so it lies", piles(desk), "2^1^4^3^|||");
-        due("a CHOICE is missing", perform(desk, 3, 0), -1 - 8);
+        due("so it lies", desk.piles(), "2^1^4^3^|||");
+        due("a CHOICE is missing", desk.performWith(3, 0), -1 - 8);
         due("two were taken", desk.count(3), 2);
-        due("it lies as ahead of that STEP", piles(desk), "3412|||");
-        due("none such within times", perform(desk, 3, 4, 0), -1 - 5);
+        due("it lies as ahead of that STEP", desk.piles(), "3412|||");
+        due("none such within times", desk.performWith(3, 4, 0), -1 - 5);
         due("one was taken", desk.count(3), 1);
         due("the tape is empty behind that, too", desk.count(2), 0);
-        due("it lies so", piles(desk), "3412|||");
-        due("none at all", perform(desk), -1 - 1);
+        due("it lies so", desk.piles(), "3412|||");
+        due("none at all", desk.performWith(), -1 - 1);
         due("none taken", desk.count(3), 0);
-        due("the first STEP was done", piles(desk), "2341|||");
-        trick(desk, "times 2 { cut a 1; cut a free; }");
-        due("times is not through", perform(desk, 0), -1 - 3);
-        trick(desk, "if 1 = 1 { cut a 1; cut a free; } else { cut a free; }");
-        due("if is not through", perform(desk), -1 - 1);
-        due("if is through", perform(desk, 0), 3);
-        trick(desk, "if 1 = 2 { cut a 1; }");
-        due("an if that does nothing", perform(desk), 1);
-        trick(desk, "times 3 { times 2 { } }");
-        due("times each time", perform(desk), 4);
-        tape(desk, 132, 3, 2, 1);
+        due("the first STEP was done", desk.piles(), "2341|||");
+        desk.trickOf("times 2 { cut a 1; cut a free; }");
+        due("times is not through", desk.performWith(0), -1 - 3);
+        desk.trickOf("if 1 = 1 { cut a 1; cut a free; } else { cut a free; }");
+        due("if is not through", desk.performWith(), -1 - 1);
+        due("if is through", desk.performWith(0), 3);
+        desk.trickOf("if 1 = 2 { cut a 1; }");
+        due("an if that does nothing", desk.performWith(), 1);
+        desk.trickOf("times 3 { times 2 { } }");
+        due("times each time", desk.performWith(), 4);
+        desk.tape(132, 3, 2, 1);
         desk.start();
-        due("from the START", perform(desk), 4);
-        due("with its faces", piles(desk), "4^321|||");
-        trick(desk, "mark a 1;");
-        perform(desk);
-        trick(desk, "");
-        perform(desk);
-        due("none MARKED at the START", piles(desk), "4^321|||");
-        due("the START stays", startRow(desk), "132 3 2 1");
+        due("from the START", desk.performWith(), 4);
+        due("with its faces", desk.piles(), "4^321|||");
+        desk.trickOf("mark a 1;");
+        desk.performWith();
+        desk.trickOf("");
+        desk.performWith();
+        due("none MARKED at the START", desk.piles(), "4^321|||");
+        due("the START stays", desk.startRow(), "132 3 2 1");
     }
 
     private static void look() {
-        ConjurerDesk desk = new ConjurerDesk();
+        TestDesk desk = new TestDesk();
         due("ahead of any", desk.look(0, 1), 0);
-        trick(desk, "turn a 2; mark a 1; deal a 3 to d; mark d 2;");
-        perform(desk);
+        desk.trickOf("turn a 2; mark a 1; deal a 3 to d; mark d 2;");
+        desk.performWith();
         due("up and MARKED", desk.look(3, 2), 1 + 16 + 32);
         due("up", desk.look(3, 3), 2 + 16);
         due("down", desk.look(3, 1), 3);
@@ -1005,139 +900,121 @@ public final class PromisesTest {
         }
         desk.run();
         desk.stack(1);
-        tape(desk, 8, 7, 6, 5, 4, 3, 2, 1);
+        desk.tape(8, 7, 6, 5, 4, 3, 2, 1);
         desk.start();
         due("it stays", desk.look(3, 1), 3);
     }
 
     private static void holds() {
-        ConjurerDesk desk = new ConjurerDesk();
-        claim(desk, "card a 1 = 8");
+        TestDesk desk = new TestDesk();
+        desk.claimOf("card a 1 = 8");
         due("of the START", desk.holds(), false);
-        tape(desk, 8, 7, 6, 5, 4, 3, 2, 1);
+        desk.tape(8, 7, 6, 5, 4, 3, 2, 1);
         desk.start();
         due("of the new START", desk.holds(), true);
-        trick(desk, "cut a 1;");
+        desk.trickOf("cut a 1;");
         due("the TRICK alone changes nothing", desk.holds(), true);
-        perform(desk);
+        desk.performWith();
         due("of what lies as PERFORMED", desk.holds(), false);
-        claim(desk, "card a 1 = 7");
+        desk.claimOf("card a 1 = 7");
         due("another CLAIM", desk.holds(), true);
-        tape(desk, 1, 2, 3, 4, 5, 6, 7, 8);
+        desk.tape(1, 2, 3, 4, 5, 6, 7, 8);
         desk.start();
         due("START no more", desk.holds(), true);
-        claim(desk, "value a 1 = 13");
+        desk.claimOf("value a 1 = 13");
         due("before the card is another", desk.holds(), false);
         desk.card(7, 13, 0, 0);
         due("as the cards are now", desk.holds(), true);
     }
 
-    private static int stackThrows(ConjurerDesk desk, int looks) {
-        try {
-            desk.stack(looks);
-        } catch (IllegalArgumentException e) {
-            return 1;
-        }
-        return 0;
-    }
-
     private static void stack() {
-        ConjurerDesk desk = new ConjurerDesk();
+        TestDesk desk = new TestDesk();
         desk.cards(4);
-        tape(desk, 132, 131, 130, 129);
+        desk.tape(132, 131, 130, 129);
         desk.start();
         for (int looks : new int[] {0, 51, -1, Integer.MAX_VALUE, Integer.MIN_VALUE}) {
-            due("stack(" + looks + ") throws", stackThrows(desk, looks), 1);
-            due("and changes nothing", startRow(desk), "132 131 130 129");
+            due("stack(" + looks + ") throws", desk.stackThrows(looks), true);
+            due("and changes nothing", desk.startRow(), "132 131 130 129");
         }
-        claim(desk, "card a 1 = 2 and card a 3 = 4");
+        desk.claimOf("card a 1 = 2 and card a 3 = 4");
         // 2 1 3 4 is number 6, 2 1 4 3 is 7, 2 3 1 4 is 8, 2 3 4 1 is 9; the first one with 4 third is 7
         due("not among seven", desk.stack(7), -1);
-        due("the START stays", startRow(desk), "132 131 130 129");
+        due("the START stays", desk.startRow(), "132 131 130 129");
         due("among eight", desk.stack(8), 7);
-        due("it is the START", startRow(desk), "2 1 4 3");
-        claim(desk, "card a 1 = 4 and card a 2 = 3 and card a 3 = 2");
+        due("it is the START", desk.startRow(), "2 1 4 3");
+        desk.claimOf("card a 1 = 4 and card a 2 = 3 and card a 3 = 2");
         due("the last order", desk.stack(50), 23);
-        due("it is the START, too", startRow(desk), "4 3 2 1");
-        claim(desk, "1 = 2");
+        due("it is the START, too", desk.startRow(), "4 3 2 1");
+        desk.claimOf("1 = 2");
         due("none of all orders", desk.stack(50), -1);
-        due("it stays", startRow(desk), "4 3 2 1");
-        claim(desk, "up a = 0");
+        due("it stays", desk.startRow(), "4 3 2 1");
+        desk.claimOf("up a = 0");
         due("the first order", desk.stack(1), 0);
-        due("face down", startRow(desk), "1 2 3 4");
+        due("face down", desk.startRow(), "1 2 3 4");
         desk.cards(9);
-        claim(desk, "card a 5 = 7 and card a 6 = 5 and card a 7 = 6");
+        desk.claimOf("card a 5 = 7 and card a 6 = 5 and card a 7 = 6");
         due("number 48 by 49", desk.stack(49), 48);
-        due("the order", startRow(desk), "1 2 3 4 7 5 6 8 9");
-        claim(desk, "card a 5 = 7 and card a 6 = 5 and card a 8 = 9");
+        due("the order", desk.startRow(), "1 2 3 4 7 5 6 8 9");
+        desk.claimOf("card a 5 = 7 and card a 6 = 5 and card a 8 = 9");
         due("number 49 by 50", desk.stack(50), 49);
-        due("that order", startRow(desk), "1 2 3 4 7 5 6 9 8");
-        claim(desk, "card a 5 = 7 and card a 6 = 5 and card a 7 = 8");
+        due("that order", desk.startRow(), "1 2 3 4 7 5 6 9 8");
+        desk.claimOf("card a 5 = 7 and card a 6 = 5 and card a 7 = 8");
         due("number 50 is not looked at", desk.stack(50), -1);
         stackOfChoices();
     }
 
     private static void stackOfChoices() {
-        ConjurerDesk desk = new ConjurerDesk();
+        TestDesk desk = new TestDesk();
         desk.cards(4);
         desk.card(1, 1, 0, 0);
         desk.card(2, 2, 0, 0);
         desk.card(3, 3, 0, 1);
         desk.card(4, 4, 0, 1);
-        trick(desk, "cut a free; deal a 2 to b; riffle a b to a;");
-        claim(desk, "each 2 colour a");
+        desk.trickOf("cut a free; deal a 2 to b; riffle a b to a;");
+        desk.claimOf("each 2 colour a");
         desk.run();
         int ends = desk.ends(0);
-        perform(desk, 1, 0);
+        desk.performWith(1, 0);
         int seen = desk.look(0, 1);
         // colours must alternate: 1 3 2 4 is number 2
         due("the first alternating order", desk.stack(50), 2);
-        due("it", startRow(desk), "1 3 2 4");
+        due("it", desk.startRow(), "1 3 2 4");
         due("the latest run stays", desk.ends(0), ends);
         due("what is performed stays", desk.look(0, 1), seen);
         due("now it holds", desk.run(), 0);
         desk.cards(9);
-        trick(desk, "times 4 { take a free to b; }");
-        claim(desk, "1 = 1");
+        desk.trickOf("times 4 { take a free to b; }");
+        desk.claimOf("1 = 1");
         due("LARGE does not hold", desk.stack(3), -1);
-        trick(desk, "if card a 9 = 9 { times 4 { take a free to b; } }");
+        desk.trickOf("if card a 9 = 9 { times 4 { take a free to b; } }");
         due("the first one that is not LARGE", desk.stack(3), 1);
-        due("its order", startRow(desk), "1 2 3 4 5 6 7 9 8");
+        due("its order", desk.startRow(), "1 2 3 4 5 6 7 9 8");
         desk.cards(2);
-        claim(desk, "card a 1 = 2");
-        trick(desk, "");
+        desk.claimOf("card a 1 = 2");
+        desk.trickOf("");
         due("two orders", desk.stack(2), 1);
-        claim(desk, "1 = 2");
+        desk.claimOf("1 = 2");
         due("no more than two", desk.stack(50), -1);
     }
 
-    private static int atThrows(ConjurerDesk desk, int k) {
-        try {
-            desk.at(k);
-        } catch (NoSuchElementException e) {
-            return 1;
-        }
-        return 0;
-    }
-
     private static void at() {
-        ConjurerDesk desk = new ConjurerDesk();
+        TestDesk desk = new TestDesk();
         desk.cards(3);
-        tape(desk, 2, 131, 1);
+        desk.tape(2, 131, 1);
         desk.start();
         due("at(1)", desk.at(1), 2);
         due("at(2)", desk.at(2), 131);
         due("at(3)", desk.at(3), 1);
         for (int k : new int[] {0, 4, -1, 9, Integer.MAX_VALUE, Integer.MIN_VALUE}) {
-            due("at(" + k + ") throws", atThrows(desk, k), 1);
+            due("at(" + k + ") throws", desk.atThrows(k), true);
         }
-        due("it stays", startRow(desk), "2 131 1");
+        due("it stays", desk.startRow(), "2 131 1");
     }
 
     private static void count() {
-        ConjurerDesk desk = new ConjurerDesk();
-        trick(desk, "cut a 1; times 2 { cut a free; }");
-        perform(desk, 1, 2, 3);
+        TestDesk desk = new TestDesk();
+        desk.trickOf("cut a 1; times 2 { cut a free; }");
+        desk.performWith(1, 2, 3);
         desk.feed(0, 0, 0, 0, 0);
         due("cards", desk.count(0), 8);
         due("STEPS", desk.count(1), 3);
