@@ -14,6 +14,9 @@ public final class StepBoundaryTest extends DeskTest {
         downToTheLast();
         swapWithEmptyPiles();
         timesAndIf();
+        fortyStepsAreDone();
+        timesFourDeep();
+        ifsFourDeep();
         choicesOfMany();
         choicesOfCut();
         choicesOfPlaces();
@@ -193,6 +196,74 @@ public final class StepBoundaryTest extends DeskTest {
         due("no else", after(3, "if 1=2 { cut a 1; } turn a 1;"), "1^23|||");
     }
 
+    /** As many STEPS as a TRICK may have, and as deep as they may lie, are all done. */
+    private static void fortyStepsAreDone() {
+        for (int steps = 38; steps <= 40; steps++) {
+            dueTop("cut a 1;".repeat(steps), steps, steps);
+            dueTop("times 2 { " + "cut a 1;".repeat(steps - 1) + " }", 2 * steps - 1, 2 * (steps - 1));
+            dueTop("if 1=1 { " + "cut a 1;".repeat(steps - 1) + " }", steps, steps - 1);
+            dueTop("if 1=2 { } else { " + "cut a 1;".repeat(steps - 1) + " }", steps, steps - 1);
+        }
+    }
+
+    private static void timesFourDeep() {
+        int cuts = 1;
+        int done = 1;
+        String text = "cut a 1;";
+        for (int deep = 1; deep <= 4; deep++) {
+            text = "times 2 { " + text + " }";
+            cuts *= 2;
+            done = 2 * done + 1;
+            dueTop(text, done, cuts);
+        }
+        dueTop("times 2 { if 1=1 { times 2 { if 1=2 { } else { cut a 1; } } } }", 1 + 2 * (2 + 2 * 2), 4);
+        dueTop("if 1=1 { times 3 { if 1=1 { times 2 { cut a 1; } } } }", 2 + 3 * (2 + 2), 6);
+    }
+
+    /** Nine cards of which so many were cut, one by one: perform() and run() find the same one at the top. */
+    private static void dueTop(String text, int done, int cuts) {
+        TestDesk desk = deskWith(9, text);
+        due("perform() of <" + text + ">", desk.perform(), done);
+        due("the top of <" + text + ">", desk.look(0, 1), cuts % 9 + 1);
+        desk.claimOf("card a 1 = " + (cuts % 9 + 1));
+        due("run() of <" + text + ">", desk.run(), 0);
+        due("ends of <" + text + ">", desk.told(), "1 1 -1: -1");
+    }
+
+    /** Ifs that find out which of nine cards is at the top, and then put card 1 there. */
+    private static String putOneAtTheTop(int low, int high, boolean lowFirst) {
+        if (low == high) {
+            return "cut a " + (10 - low) + ";";
+        }
+        int middle = lowFirst ? (low + high + 1) / 2 : (low + high) / 2 + 1;
+        String lower = putOneAtTheTop(low, middle - 1, lowFirst);
+        String upper = putOneAtTheTop(middle, high, lowFirst);
+        return lowFirst ? "if card a 1<" + middle + "{" + lower + "}else{" + upper + "}"
+                : "if card a 1>=" + middle + "{" + upper + "}else{" + lower + "}";
+    }
+
+    private static void ifsFourDeep() {
+        for (boolean lowFirst : new boolean[] {true, false}) {
+            String text = "cut a free;" + putOneAtTheTop(1, 9, lowFirst);
+            TestDesk desk = deskWith(9, text);
+            desk.claimOf("rising a");
+            for (int cut = 0; cut < 9; cut++) {
+                desk.performWith(cut);
+                due("performed with " + cut, desk.holds(), true);
+            }
+            due("run of <" + text + ">", desk.run(), 0);
+            due("all come to one end", desk.told(), "1 1 -1: -1");
+            // What each way does is seen: the card that was at the top has its face up.
+            desk = deskWith(9, "cut a free; flip a 1;" + putOneAtTheTop(1, 9, lowFirst));
+            desk.claimOf("rising a");
+            due("run with faces", desk.run(), 0);
+            due("nine ends", desk.told(), "9 9 -1: -1");
+            desk.claimOf("rising a and not face a 7 = 1");
+            due("run with one that breaks it", desk.run(), 1);
+            due("the CHOICE that does", desk.told(), "9 8 1: 6 -1");
+        }
+    }
+
     // ---- "CHOICES: free of MANY: how many, from 0 to all that there are (of cut: to one less ..)" ----
 
     private static void dueChoices(int n, String text, int choices) {
@@ -298,6 +369,13 @@ public final class StepBoundaryTest extends DeskTest {
             }
         }
         due("most ways", waysToChoose(9, 4), 126);
+        // Not all cards come together: no card, one, two and so on.
+        for (int first = 0; first <= 2; first++) {
+            for (int second = 0; second <= 2; second++) {
+                dueChoices(5, "move a " + first + " to b; move a " + second + " to c; riffle b c to d;",
+                        waysToChoose(first + second, first));
+            }
+        }
     }
 
     private static void riffleWaysInOrder() {

@@ -25,6 +25,7 @@ public final class TextBoundaryTest extends DeskTest {
         fourPiles();
         secondPiles();
         pilesBehindTo();
+        tokensThatCannotCome();
         theFirstFaultAlongTheText();
         theLeastFaultOfOneToken();
         theEndOfTheText();
@@ -40,6 +41,8 @@ public final class TextBoundaryTest extends DeskTest {
         fiveHundredStepsLikewise();
         otherFaultsGoAheadOfLength();
         whatAFaultLeaves();
+        nothingOfARefusedTextIsLeft();
+        longTextsOneBehindAnother();
         emptyTexts();
         faultOfTheLatest();
         finish();
@@ -389,7 +392,7 @@ public final class TextBoundaryTest extends DeskTest {
             dueClaim("alike colour " + pile, !pile.equals("a"));
             dueClaim("rising " + pile, true);
         }
-        for (String other : new String[] {"e", "z", "aa", "ab", "to", "all"}) {
+        for (String other : new String[] {"e", "z", "aa", "ab", "to", "all", "free", "or"}) {
             dueFault("cut " + other + " 1;", 2, 4);
             dueFault("deal a 1 to " + other + ";", 2, 12);
             dueFault("swap a " + other + ";", 2, 7);
@@ -437,6 +440,56 @@ public final class TextBoundaryTest extends DeskTest {
                 }
             }
         }
+    }
+
+    // ---- "2 a TOKEN that can't come" ----
+
+    /** Something is left out, and what stands behind it would be right there. */
+    private static void tokensThatCannotCome() {
+        dueFault("cut 1;", 2, 4);
+        dueFault("cut a;", 2, 5);
+        dueFault("cut a 1 cut a 1;", 2, 8);
+        dueFault("deal a to b;", 2, 7);
+        dueFault("deal a 1 b;", 2, 9);
+        dueFault("take a 1 to;", 2, 11);
+        dueFault("riffle a to b;", 2, 9);
+        dueFault("faro a b c;", 2, 9);
+        dueFault("swap a;", 2, 6);
+        dueFault("down to b;", 2, 5);
+        dueFault("times { }", 2, 6);
+        dueFault("times 2 }", 2, 8);
+        dueFault("times 2 { cut a 1; } }", 2, 21);
+        dueFault("times 2 { cut a 1; else", 2, 19);
+        dueFault("if { }", 2, 3);
+        dueFault("if 1=1 }", 2, 7);
+        dueFault("else { }", 2, 0);
+        dueFault("if 1=1 { } else }", 2, 16);
+        dueFault("if 1=1 { } else if 1=1 { }", 2, 16);
+        dueFault("times 2 { } else { }", 2, 12);
+        dueClaimFault("alike a", 2, 6);
+        dueClaimFault("alike card a", 2, 6);
+        dueClaimFault("alike face a", 2, 6);
+        dueClaimFault("alike size a", 2, 6);
+        dueClaimFault("each 2 a", 2, 7);
+        dueClaimFault("each 2 face a", 2, 7);
+        dueClaimFault("each 2 card a", 2, 7);
+        dueClaimFault("rising", 2, 6);
+        dueClaimFault("1 and 1=1", 2, 2);
+        dueClaimFault("1 or 1=1", 2, 2);
+        dueClaimFault("(1) = 1", 2, 2);
+        dueClaimFault("1 ; 1", 2, 2);
+        dueClaimFault("1 { 1", 2, 2);
+        dueClaimFault("1 1 = 1", 2, 2);
+        dueClaimFault("= 1", 2, 0);
+        dueClaimFault("and 1=1", 2, 0);
+        dueClaimFault("1=1 not 1=1", 2, 4);
+        dueClaimFault("1=1 (1=1)", 2, 4);
+        dueClaimFault("()", 2, 1);
+        dueClaimFault("1=1 or and 1=1", 2, 7);
+        dueClaimFault("rising = 1", 2, 7);
+        dueClaimFault("alike suit a = 1", 2, 13);
+        dueClaimFault("else = 1", 2, 0);
+        dueClaimFault("zzz = 1", 2, 0);
     }
 
     // ---- "FAULTS, the first along the text, of one TOKEN the least" ----
@@ -749,6 +802,62 @@ public final class TextBoundaryTest extends DeskTest {
             desk.claimOf(claims[kind - 1]);
             due("all behind a claim's FAULT of kind " + kind, desk.state(), ahead.replace("fault 0", "fault " + kind));
         }
+    }
+
+    /** STEPS and CONDS of a text that was refused are not seen in the next one. */
+    private static void nothingOfARefusedTextIsLeft() {
+        String[] refused = {"cut a free; cut a free; cut a free; cut a free; #", "cut a free;".repeat(9),
+            "if 1=2 and 1=2 { cut a free; if 1=2 { cut a free; } }" + "cut a free;".repeat(7)};
+        String[] taken = {"swap a b; faro a b to a; down a to b; swap a b;",
+            "if 1=1 { swap a b; } swap a b; if 1=1 { cut a 1; } else { turn a 1; }"};
+        String[] lie = {"24531|||", "23451|||"};
+        for (String text : refused) {
+            for (int i = 0; i < taken.length; i++) {
+                TestDesk desk = deskWith(5, "");
+                due("trick() of <" + text + ">", desk.trickOf(text) < 0, true);
+                due("trick() of <" + taken[i] + "> behind it", desk.trickOf(taken[i]) > 0, true);
+                due("no CHOICE is asked for", desk.perform() > 0, true);
+                due("none was taken", desk.count(3), 0);
+                due("it lies so", desk.piles(), lie[i]);
+                due("run() has one end", desk.run(), 0);
+                due("told so", desk.told(), "1 1 -1: -1");
+            }
+        }
+        TestDesk desk = new TestDesk();
+        desk.claimOf("1=1 or 1=1 or 1=1 #");
+        desk.claimOf("1=2");
+        due("the CLAIM that was taken", desk.holds(), false);
+        desk.claimOf("1=2 and 1=2 and (");
+        desk.claimOf("1=1");
+        due("the other CLAIM that was taken", desk.holds(), true);
+    }
+
+    /** Texts that fill the tape, taken and refused, again and again: the last ones are read as the first. */
+    private static void longTextsOneBehindAnother() {
+        String many = "1=2 or ".repeat(126);
+        TestDesk desk = new TestDesk();
+        for (int i = 0; i < 5; i++) {
+            due("a long CLAIM, time " + i, desk.claimOf(many + "1=1"), 0);
+            due("it holds", desk.holds(), true);
+            due("another one, time " + i, desk.claimOf(many + "1=2"), 0);
+            due("it does not hold", desk.holds(), false);
+        }
+        desk = new TestDesk();
+        for (int i = 0; i < 4; i++) {
+            due("a long if, time " + i, desk.trickOf("if " + many + "1=1{cut a 1;}"), 2);
+            desk.perform();
+            due("it is done", desk.look(0, 1), 2);
+            due("another one, time " + i, desk.trickOf("if " + many + "1=2{cut a 1;}"), 2);
+            desk.perform();
+            due("it is not done", desk.look(0, 1), 1);
+        }
+        // Ifs at the same STEP, whose CONDS stood far along the text before.
+        desk = new TestDesk();
+        desk.trickOf("if 1=2 or 1=2 or 1=2 { } if 1=2 or 1=2 { }");
+        desk.trickOf("");
+        due("a short one in the place of a long one", desk.trickOf("cut a 1; if 1=1 { cut a 1; }"), 3);
+        desk.perform();
+        due("is done", desk.look(0, 1), 3);
     }
 
     private static void emptyTexts() {
